@@ -582,6 +582,7 @@ public final class SiltHarbour {
         final Plans plans;
         final int[] facts;
         final int[] depths;
+        final int[] waysIn;
 
         Board() {
             hour = 0;
@@ -593,6 +594,7 @@ public final class SiltHarbour {
             plans = new Plans();
             facts = new int[FACTS];
             depths = new int[CELLS];
+            waysIn = new int[CELLS];
         }
 
         void copyFrom(Board other) {
@@ -623,9 +625,12 @@ public final class SiltHarbour {
             int clearance = law.lastNumber(CLEAR, 5);
             port.nextHourOfPilots();
             port.arrive(hour);
-            fillDepths();
-            shipsLeave(clearance);
-            shipsComeIn(clearance, law.lastNumber(TURN, 0));
+            if (port.hasInState(READY)) {
+                shipsLeave(clearance);
+            }
+            if (port.hasInState(WAITING)) {
+                shipsComeIn(clearance, law.lastNumber(TURN, 0));
+            }
             port.unload();
             port.cart();
             port.weigh();
@@ -651,14 +656,12 @@ public final class SiltHarbour {
         }
 
         private void shipsLeave(int clearance) {
-            if (!port.hasReady()) {
-                return;
-            }
+            fillDepths();
             for (int i = 0; i < port.shipCount; i++) {
                 Ship s = port.ships[i];
                 if (s.state == READY && port.freePilots() > 0) {
                     int cell = port.cellOf(s.berth);
-                    if (river.shallowest(depths, cell, hour, true) >= s.draughtOut + clearance) {
+                    if (river.bears(s.draughtOut + clearance, depths, cell, hour, true)) {
                         leave(s, cell);
                     }
                 }
@@ -666,7 +669,7 @@ public final class SiltHarbour {
         }
 
         private void leave(Ship s, int cell) {
-            if (river.shallowest(river.bed, cell, hour, true) < s.draughtOut) {
+            if (!river.bears(s.draughtOut, river.bed, cell, hour, true)) {
                 s.touches++;
             }
             s.due = dueBy(s.law, s, stayOf(s));
@@ -679,11 +682,9 @@ public final class SiltHarbour {
 
         /** One that could not come in ahead of another cannot do so behind it: there are but fewer berths then. */
         private void shipsComeIn(int clearance, int turn) {
-            if (!measureWaysIn()) {
-                return;
-            }
+            int most = deepestWayIn() - clearance;
             for (int n = 0; n < MOST_BERTHS && port.freePilots() > 0; n++) {
-                int ship = firstThatCanComeIn(clearance, turn);
+                int ship = firstThatCanComeIn(most, clearance, turn);
                 if (ship == NONE) {
                     return;
                 }
@@ -691,25 +692,26 @@ public final class SiltHarbour {
             }
         }
 
-        /** Whether some BERTH is open. */
-        private boolean measureWaysIn() {
-            boolean open = false;
+        /** Measures the ways in to all BERTHS; SHUT, if none is open. */
+        private int deepestWayIn() {
+            fillDepths();
+            river.fillWaysIn(waysIn, depths, hour);
+            int deepest = Berth.SHUT;
             for (int b = 0; b < port.berthCount; b++) {
                 Berth berth = port.berths[b];
-                berth.wayIn = Berth.SHUT;
-                if (berth.holder == NONE && !berth.isClosed()) {
-                    berth.wayIn = river.shallowest(depths, berth.cell, hour, false);
-                    open = true;
-                }
+                boolean open = berth.holder == NONE && !berth.isClosed();
+                berth.wayIn = open ? waysIn[berth.cell] : Berth.SHUT;
+                deepest = Math.max(deepest, berth.wayIn);
             }
-            return open;
+            return deepest;
         }
 
-        private int firstThatCanComeIn(int clearance, int turn) {
+        /** Of those that draw no more than the most that any BERTH bears: a quick look, ahead of the BERTHS one by one. */
+        private int firstThatCanComeIn(int most, int clearance, int turn) {
             int first = NONE;
             for (int i = 0; i < port.shipCount; i++) {
                 Ship s = port.ships[i];
-                if (s.state == WAITING && (first == NONE || port.isAhead(i, first, turn))
+                if (s.state == WAITING && s.draughtIn <= most && (first == NONE || port.isAhead(i, first, turn))
                         && port.firstBerthFor(s, clearance) != NONE) {
                     first = i;
                 }
@@ -723,7 +725,7 @@ public final class SiltHarbour {
             }
             Ship s = port.ships[ship];
             int cell = port.berths[berth].cell;
-            if (river.shallowest(river.bed, cell, hour, false) < s.draughtIn) {
+            if (!river.bears(s.draughtIn, river.bed, cell, hour, false)) {
                 s.touches++;
             }
             s.berth = berth;
@@ -751,7 +753,7 @@ public final class SiltHarbour {
             int need = (out ? s.draughtOut : s.draughtIn) + actOfToday().lastNumber(CLEAR, 5);
             fillDepths();
             for (int h = hour + 1; h <= hour + 50; h++) {
-                if (river.shallowest(depths, cell, h, out) >= need) {
+                if (river.bears(need, depths, cell, h, out)) {
                     return h;
                 }
             }
@@ -825,13 +827,12 @@ public final class SiltHarbour {
                 plans.addWaiting(port.ships[ship], clearance);
                 ship = port.nextInTurn(ship, turn);
             }
+            for (int h = 0; h < TIDES; h++) {
+                river.fillWaysIn(plans.waysIn[h], depths, hour + h);
+            }
             for (int b = 0; b < port.berthCount; b++) {
-                Berth berth = port.berths[b];
-                if (!berth.isClosed()) {
-                    for (int h = 0; h < TIDES; h++) {
-                        plans.wayIn[h] = river.shallowest(depths, berth.cell, hour + h, false);
-                    }
-                    plans.useBerth(berth);
+                if (!port.berths[b].isClosed()) {
+                    plans.useBerth(port.berths[b]);
                 }
             }
             return plans.leastSum();
@@ -911,15 +912,24 @@ public final class SiltHarbour {
             return other;
         }
 
-        /** The least of the depths and the tide on a way that begins at an hour. */
-        int shallowest(int[] deep, int berthCell, int hour, boolean out) {
-            int least = DEEPEST * 10;
+        /** Whether the depths and the tide are enough all along a way that begins at an hour. */
+        boolean bears(int draught, int[] deep, int berthCell, int hour, boolean out) {
             for (int c = 0; c <= berthCell && c < deep.length; c++) {
                 int passed = out ? berthCell - c : c;
-                int water = deep[c] + tides[(hour + passed / CELLS_AN_HOUR) % TIDES];
-                least = Math.min(least, water);
+                if (deep[c] + tides[(hour + passed / CELLS_AN_HOUR) % TIDES] < draught) {
+                    return false;
+                }
             }
-            return least;
+            return true;
+        }
+
+        /** For each CELL the least of the depths and the tide on a way in to it that begins at an hour. */
+        void fillWaysIn(int[] ways, int[] deep, int hour) {
+            int least = DEEPEST * 10;
+            for (int c = 0; c < ways.length && c < deep.length; c++) {
+                least = Math.min(least, deep[c] + tides[(hour + c / CELLS_AN_HOUR) % TIDES]);
+                ways[c] = least;
+            }
         }
 
         void endDay(int day) {
@@ -1113,10 +1123,9 @@ public final class SiltHarbour {
             return holder >= 0 && holder < shipCount ? ships[holder] : null;
         }
 
-        boolean hasReady() {
-            for (int b = 0; b < berthCount; b++) {
-                Ship s = holderOf(b);
-                if (s != null && s.state == READY) {
+        boolean hasInState(int state) {
+            for (int i = 0; i < shipCount; i++) {
+                if (ships[i].state == state) {
                     return true;
                 }
             }
@@ -2019,8 +2028,8 @@ public final class SiltHarbour {
         private final int[] tons;
         private final int[] lengths;
         private int waiting;
-        /** Of the berth in hand: depth of the way in by the hours behind HOUR, modulo TIDES. */
-        final int[] wayIn;
+        /** The ways in to each CELL, by the hours behind HOUR in which they begin, modulo TIDES. */
+        final int[][] waysIn;
         /** How long each waiting SHIP would hold the berth in hand; 0 if it is too long for it. */
         private final int[] holds;
         /** The least sum for each set of SHIPS: at the berth in hand; at all berths up to it. */
@@ -2034,7 +2043,7 @@ public final class SiltHarbour {
             needs = new int[BROUGHT];
             tons = new int[BROUGHT];
             lengths = new int[BROUGHT];
-            wayIn = new int[TIDES];
+            waysIn = new int[TIDES][CELLS];
             holds = new int[BROUGHT];
             here = new int[1 << BROUGHT];
             sums = new int[1 << BROUGHT];
@@ -2116,27 +2125,27 @@ public final class SiltHarbour {
                 holds[i] = lengths[i] <= berth.length ? stays : 0;
             }
             Arrays.fill(here, NO_WAY);
-            layOn(0, berth.holder == NONE ? 1 : 24, 0);
+            layOn(berth.cell, 0, berth.holder == NONE ? 1 : 24, 0);
             for (int set = (1 << waiting) - 1; set > 0; set--) {
                 joinSets(set);
             }
         }
 
-        private void layOn(int set, int from, int sum) {
+        private void layOn(int cell, int set, int from, int sum) {
             here[set] = Math.min(here[set], sum);
             for (int i = 0; i < waiting; i++) {
                 if ((set >> i & 1) == 0 && holds[i] > 0) {
-                    int begin = firstBegin(needs[i], from);
+                    int begin = firstBegin(cell, needs[i], from);
                     if (begin != NONE) {
-                        layOn(set | 1 << i, begin + holds[i], sum + begin);
+                        layOn(cell, set | 1 << i, begin + holds[i], sum + begin);
                     }
                 }
             }
         }
 
-        private int firstBegin(int need, int from) {
+        private int firstBegin(int cell, int need, int from) {
             for (int h = from; h <= HOURS_AHEAD; h++) {
-                if (wayIn[h % TIDES] >= need) {
+                if (waysIn[h % TIDES][cell] >= need) {
                     return h;
                 }
             }
