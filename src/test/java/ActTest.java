@@ -24,6 +24,7 @@ public final class ActTest {
         passing();
         closing();
         judge();
+        judgeAnotherShip();
         another();
         Due.finish("ActTest");
     }
@@ -117,7 +118,7 @@ public final class ActTest {
 
     private static void wrongTexts() {
         Object[][] wrong = {
-            {"t", 0}, {"ton", 3}, {"ton ", 4}, {"  ton  ", 7}, {"tonn 5", 0}, {"Ton 5", 0}, {"to n 5", 0}, {"5", 0},
+            {"t", 0}, {"ton", 3}, {"ton ", 4}, {"  ton  ", 7}, {"tonn 5", 0}, {"tonz 5", 0}, {"xon 5", 0}, {"xhip 5", 0}, {"ton 5 if bail", 9}, {"ton 5 xf coal", 6}, {"turn xome", 5}, {"Ton 5", 0}, {"to n 5", 0}, {"5", 0},
             {"ton 1234567", 4}, {"ton  0000000", 5}, {"back 101", 5}, {"pass 101", 5}, {"clear 51", 6}, {"clear 999999", 6},
             {"ton 5 5", 6}, {"ton 5 coal", 6}, {"ton 5;", 6}, {"ton 5; ", 7}, {";", 0}, {" ;ton 5", 1}, {"ton 5;;", 6},
             {"ton 5 if", 8}, {"ton 5 if ", 9}, {"ton 5 if gold", 9}, {"ton 5 if if", 9}, {"ton 5 if come", 9},
@@ -177,7 +178,7 @@ public final class ActTest {
             "grain and coal or grain and ore or coal and (mail or (foreign and (ore or tons > 5)))"};
         String[] notSo = {"grain", "timber", "cotton", "ore", "mail", "not foreign", "tons > 10", "tons < 10", "long > 20",
             "long < 20", "stay > 0", "paid > 0", "last > 0", "coal and grain", "(coal or grain) and mail",
-            "not grain and mail", "not (grain or coal)", "not coal or mail", "not (coal) and coal"};
+            "mail or grain and ore", "mail or coal and ore", "not grain and mail", "not (grain or coal)", "not coal or mail", "not (coal) and coal"};
         for (String c : so) {
             Due.due(c, holds(c), 1);
         }
@@ -344,6 +345,32 @@ public final class ActTest {
         y.propose(0);
         y.vote(0, true);
         Due.due("never above 100", y.close(), false);
+        Due.due("51 of 100", passesWith("vote 51 if paid > 0;vote 49 if paid < 1"), true);
+        Due.due("50 of 100", passesWith("vote 50 if paid > 0;vote 50 if paid < 1"), false);
+        Due.due("1 of 1", passesWith("vote 1 if paid > 0"), true);
+        Due.due("by the act of the day on which it is closed", passesLater(), false);
+    }
+
+    private static boolean passesWith(String votes) {
+        SiltHarbour x = afterPaying("ship 100;" + votes);
+        x.payer();
+        x.propose(0);
+        x.vote(0, true);
+        x.vote(1, false);
+        return x.close();
+    }
+
+    private static boolean passesLater() {
+        SiltHarbour x = withPayer();
+        Due.act(x, 0, "vote 1");
+        Due.act(x, 1, "vote 7;pass 100");
+        x.propose(0);
+        x.keep();
+        Due.due("by the act of the day on which it is said", x.vote(0, true), 1);
+        x.again();
+        x.hours(24);
+        Due.due("a day later", x.vote(0, true), 7);
+        return x.close();
     }
 
     private static void closing() {
@@ -396,6 +423,24 @@ public final class ActTest {
         Due.thrown("what -1", NoSuchElementException.class, () -> x.judge(0, -1));
     }
 
+    private static void judgeAnotherShip() {
+        SiltHarbour x = withPayer();
+        Due.act(x, 0, "ton 1 if coal;ship 1 if grain;back 9 if timber");
+        for (int good = 0; good < 3; good++) {
+            x.ship(0, good, 1, 1, 1, 1, false, 0);
+        }
+        for (int what = 1; what < 4; what++) {
+            for (int s = 0; s < 3; s++) {
+                int want = s == what - 1 ? new int[] {0, 1, 9}[s] : what == 3 ? 0 : -1;
+                Due.due("ship " + s + ", what " + what, x.judge(s, what), want);
+            }
+        }
+        Due.act(x, 0, "back 9");
+        Due.due("the first line, too", x.judge(0, 3), 9);
+        Due.act(x, 0, "ship 9");
+        Due.due("the first line is 0", x.judge(0, 2), 0);
+    }
+
     private static int another(SiltHarbour x, String text, int year, boolean elsewhere) {
         Due.text(x, text);
         return x.another(year, elsewhere);
@@ -423,7 +468,13 @@ public final class ActTest {
         Due.due("no text brings none", another(x, "", 0, false), 0);
         Due.due("nothing changed", x.count(18), 0);
         Due.due("no dues", x.count(11), 0);
-        Due.pass(x, 2400 - 15);
+        Due.act(x, 0, "ton 2 if stay > 3;ship 5");
+        x.ship(0, 5, 10, 1, 1, 1, false, 1000000);
+        x.hours(3);
+        Due.due("the stay from its coming", x.led(4, 6), 5);
+        Due.due("it left", x.led(4, 5), 18);
+        Due.due("by another, too", another(x, "ship 7 if mail and stay < 4", 0, false), 7);
+        Due.pass(x, 2400 - 18);
         Due.due("the fourth left in year 0", x.led(3, 0), 4);
         Due.due("and counts", another(x, "ton 3 if tons > 100", 0, false), 6000);
     }

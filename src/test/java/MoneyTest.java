@@ -8,6 +8,7 @@ public final class MoneyTest {
 
     public static void main(String[] args) {
         back();
+        backOfTwo();
         backWithoutCash();
         dues();
         greatDues();
@@ -55,6 +56,19 @@ public final class MoneyTest {
         y.hours(2);
         Due.due("no line: none", y.back(0), 0);
         Due.due("had it all the same", y.back(0), -1);
+    }
+
+    private static void backOfTwo() {
+        SiltHarbour x = withBerth("back 10 if coal;back 20 if stay > 4;ship 100");
+        x.hours(10);
+        x.ship(0, 0, 1, 1, 1, 1, false, 0);
+        x.ship(0, 1, 2000, 1, 1, 1, false, 0);
+        x.hours(10);
+        Due.due("both left", x.count(6), 2);
+        x.judge(1, 3);
+        Due.due("coal, for 2 hours", x.back(0), 10);
+        x.judge(0, 3);
+        Due.due("grain, for 7", x.back(1), 20);
     }
 
     private static void backWithoutCash() {

@@ -9,6 +9,7 @@ public final class PlansTest {
         bringToSeveralBerths();
         bringFirstFour();
         bringByTheTide();
+        bringAtTheSameTide();
         bringAsLateAs72();
         bringChangesNothing();
         workNumbers();
@@ -84,6 +85,13 @@ public final class PlansTest {
         Due.due("four", x.bring(), 1 + 8 + 15 + 22);
         boat(x, 1, 900);
         Due.due("a fifth is not asked", x.bring(), 46);
+        SiltHarbour y = withPayer();
+        y.berth(0, 100, 500, 100);
+        boat(y, 9, 900);
+        for (int i = 0; i < 4; i++) {
+            boat(y, 1, 1);
+        }
+        Due.due("without a turn line the first that came", y.bring(), -1);
         Due.act(x, 0, "turn long down");
         Due.due("but it is by another turn", x.bring(), -1);
     }
@@ -106,6 +114,27 @@ public final class PlansTest {
         Due.due("too shallow", x.bring(), -1);
         Due.act(x, 0, "clear 4");
         Due.due("less clearance", x.bring(), 106);
+    }
+
+    private static void bringAtTheSameTide() {
+        SiltHarbour x = withPayer();
+        x.berth(0, 100, 500, 100);
+        x.tide(0, 20);
+        x.ship(0, 0, 1, 1, 30, 1, false, 0);
+        Due.due("25 hours from now", x.bring(), 25);
+        x.hours(7);
+        Due.due("18 from then", x.bring(), 18);
+        SiltHarbour y = withPayer();
+        y.berth(12, 100, 500, 100);
+        y.tide(5, 20);
+        y.tide(6, 20);
+        y.tide(8, 20);
+        y.tide(9, 20);
+        y.tide(10, 20);
+        y.ship(0, 0, 1, 1, 30, 1, false, 0);
+        Due.due("the tide of the hour at each cell", y.bring(), 8);
+        y.sound(12, 0, 40);
+        Due.due("cell 12 is deeper", y.bring(), 5);
     }
 
     private static void bringAsLateAs72() {
@@ -154,6 +183,17 @@ public final class PlansTest {
         Due.thrown("best of 1000001", ARGUMENT, () -> x.best(1000001));
         Due.due("all cash", x.worth(1000000, 0), 1000000);
         Due.due("none is worth it", x.best(1000000), 0);
+        firstWorkAlone();
+    }
+
+    private static void firstWorkAlone() {
+        SiltHarbour x = new SiltHarbour();
+        x.work(10, 1, 0, 0);
+        Due.due("the first alone", x.best(10), 1);
+        x.work(10, 0, 0, 0);
+        x.work(0, 0, 5, 0);
+        Due.due("and no other", x.best(1000), 1);
+        Due.due("worth of it", x.worth(1000, x.best(1000)), 1019);
     }
 
     private static void worth() {

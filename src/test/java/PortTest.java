@@ -21,6 +21,9 @@ public final class PortTest {
         berthsByNumbers();
         berthIsFreeAtOnce();
         touches();
+        touchesByTheHourOfEachCell();
+        noPilots();
+        turnWithoutLine();
         wagons();
         sinking();
         closedBerth();
@@ -318,6 +321,78 @@ public final class PortTest {
         Due.due("in all", x.count(13), 1);
     }
 
+    private static void touchesByTheHourOfEachCell() {
+        SiltHarbour x = withBerth(6, 100, 500, 1000);
+        x.river(0, 5, 10, 20);
+        x.river(6, 6, 5, 20);
+        for (int h = 0; h < 25; h++) {
+            x.tide(h, 10);
+        }
+        x.tide(1, 0);
+        x.ship(0, 0, 1, 50, 11, 1, false, 0);
+        x.hours(1);
+        Due.due("the low tide is at cells 0 to 5", x.led(0, 8), 1);
+        SiltHarbour y = withBerth(6, 100, 500, 1000);
+        y.river(0, 5, 10, 20);
+        y.river(6, 6, 5, 20);
+        y.tide(2, 5);
+        y.ship(0, 0, 1, 50, 10, 10, false, 0);
+        y.hours(1);
+        Due.due("the high tide is at cell 6", y.led(0, 8), 0);
+        y.tide(3, 5);
+        y.hours(2);
+        Due.due("gone", y.led(0, 5), 3);
+        Due.due("out, the high tide is at cell 6 first", y.led(0, 8), 0);
+        Due.due("none touched", y.count(13), 0);
+        SiltHarbour z = withBerth(6, 100, 500, 1000);
+        z.river(0, 5, 10, 20);
+        z.river(6, 6, 5, 20);
+        z.tide(2, 5);
+        z.ship(0, 0, 1, 50, 10, 10, false, 0);
+        z.hours(2);
+        z.tide(4, 5);
+        z.hours(1);
+        Due.due("gone", z.led(0, 5), 3);
+        Due.due("an hour too late", z.led(0, 8), 1);
+        Due.due("in all", z.count(13), 1);
+    }
+
+    private static void noPilots() {
+        SiltHarbour x = withBerth(0, 100, 500, 1000);
+        boat(x, 1);
+        x.hours(1);
+        x.hands(0, 0);
+        boat(x, 1);
+        x.hours(9);
+        Due.due("none to lead it out", x.led(0, 0), 3);
+        x.hands(1, 0);
+        x.hours(1);
+        Due.due("one to lead it out", x.led(0, 5), 11);
+        Due.due("and none to lead the other in", x.led(1, 0), 0);
+    }
+
+    private static void turnWithoutLine() {
+        SiltHarbour x = withBerth(0, 100, 500, 1000);
+        Due.act(x, 0, "ton 1");
+        boat(x, 9);
+        x.hours(0);
+        boat(x, 2);
+        x.hours(1);
+        Due.due("who came first", x.led(0, 0), 3);
+        Due.due("not who has less", x.led(1, 0), 0);
+        SiltHarbour y = withBerth(0, 100, 1, 1000);
+        y.berth(0, 100, 1, 1000);
+        y.berth(0, 100, 1, 1000);
+        y.hands(1, 1);
+        for (int i = 0; i < 3; i++) {
+            y.ship(0, 3 - i, 9 - i, 20 - i, 5, 5, false, 0);
+        }
+        for (int i = 0; i < 3; i++) {
+            y.hours(1);
+            Due.due("in the order of coming " + i, y.led(i, 4) >= 0, true);
+        }
+    }
+
     private static void wagons() {
         SiltHarbour x = new SiltHarbour();
         x.payer();
@@ -339,6 +414,12 @@ public final class PortTest {
         x.hours(1);
         Due.due("what there is", x.count(9), 63);
         Due.due("none left", x.count(8), 0);
+        boat(x, 11);
+        x.hands(2, 1);
+        x.hours(1);
+        Due.due("a ton is left", x.count(8), 1);
+        x.hours(1);
+        Due.due("that, too", x.count(8), 0);
         SiltHarbour y = new SiltHarbour();
         y.payer();
         y.berth(0, 100, 20, 50000);
@@ -380,6 +461,7 @@ public final class PortTest {
         Due.pass(x, 240);
         Due.due("sunk", x.quay(0, 2), 10);
         Due.due("the one that is there goes on", x.led(0, 0), 2);
+        closesAtTen();
         boat(x, 1);
         Due.pass(x, 261);
         Due.due("and leaves", x.led(0, 5), 501);
@@ -388,6 +470,26 @@ public final class PortTest {
         Due.due("sinks on", x.quay(0, 2), 506 / 24);
         Due.due("cannot be brought", x.bring(), -1);
         Due.due("the way is safe all the same", x.window(1, 0, false), 507);
+    }
+
+    private static void closesAtTen() {
+        SiltHarbour x = withBerth(0, 100, 10, 1);
+        x.hands(2, 0);
+        boat(x, 10);
+        x.hours(2);
+        Due.due("gone", x.led(0, 0), 4);
+        Due.pass(x, 237);
+        Due.due("239 hours", x.quay(0, 4), 239);
+        x.keep();
+        boat(x, 1);
+        x.hours(1);
+        Due.due("one comes with 9", x.led(1, 0), 3);
+        x.again();
+        x.hours(1);
+        boat(x, 1);
+        x.hours(1);
+        Due.due("none with 10", x.led(1, 0), 0);
+        Due.due("sunk", x.quay(0, 2), 10);
     }
 
     private static void window() {

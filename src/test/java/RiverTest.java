@@ -15,6 +15,7 @@ public final class RiverTest {
         dredgerAtTheBottom();
         dredgersLay();
         shallowHeap();
+        theBar();
         soundings();
         known();
         Due.finish("RiverTest");
@@ -221,6 +222,33 @@ public final class RiverTest {
         x.hours(24);
         Due.due("bed no less than 0", x.cell(9, 0), 0);
         Due.due("the heap grows", x.cell(9, 2), 150);
+    }
+
+    private static void theBar() {
+        SiltHarbour x = new SiltHarbour();
+        x.river(0, 0, 100, 20);
+        x.run(0, 1000);
+        x.hours(24);
+        int left = 1000;
+        for (int c = 23; c > 0; c--) {
+            left -= left * 5 / 100;
+        }
+        int settles = left * 60 / 100;
+        Due.due("cell 0 silts", x.cell(0, 0), 100 - settles / 50);
+        Due.due("its heap", x.cell(0, 2), settles % 50);
+        Due.due("the rest goes to the sea", x.count(15), left - settles);
+        SiltHarbour y = new SiltHarbour();
+        y.dredger(60);
+        y.station(0, 1, 0);
+        y.hours(24);
+        Due.due("laid in cell 0", y.cell(0, 0), 19);
+        Due.due("its heap", y.cell(0, 2), 10);
+        Due.due("none away", y.count(16), 0);
+        y.station(0, 0, 23);
+        y.hours(24);
+        Due.due("dug there", y.cell(0, 0), 20);
+        Due.due("no heap", y.cell(0, 2), 0);
+        Due.due("laid in cell 23", y.cell(23, 0), 19);
     }
 
     private static void soundings() {
