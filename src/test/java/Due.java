@@ -21,6 +21,14 @@ final class Due {
         due(call, got ? 1 : 0, want ? 1 : 0);
     }
 
+    static void same(String call, Object got, Object want) {
+        asked++;
+        if (!got.equals(want)) {
+            wrong++;
+            System.out.println(call + " answered " + got + ", due is " + want);
+        }
+    }
+
     /** The very class is asked for: a subclass would be one that the machine threw. */
     static void thrown(String call, Class<?> want, Call made) {
         asked++;
