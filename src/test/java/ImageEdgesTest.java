@@ -8,6 +8,7 @@ public final class ImageEdgesTest {
         keepChangesNothing();
         allComesBack();
         fullOnesComeBack();
+        allGoesOnFromThere();
         oneImage();
         theImageItselfStays();
         notTheTape();
@@ -125,6 +126,34 @@ public final class ImageEdgesTest {
     private static void fullOnesComeBack() {
         for (Supplier<SiltHarbour> made : ALL) {
             Look.same("back", Look.of(() -> changedAndBack(made)), Look.of(() -> sameTape(kept(made))));
+        }
+    }
+
+    /** What would be told next by one that never went back. */
+    private static SiltHarbour goOn(SiltHarbour x) {
+        x.vote(1, true);
+        x.close();
+        x.run(x.count(1), 50);
+        x.dredger(10);
+        x.station(2, 6, 7);
+        x.payer();
+        x.berth(4, 300, 7, 8);
+        x.ship(3, 1, 30, 50, 12, 12, false, 10);
+        x.bond(100, 100, 2, 2);
+        x.work(7, 3, 2, 1);
+        x.sound(9, 0, 17);
+        x.hours(50);
+        for (int s = 0; s < 10; s++) {
+            x.back(s);
+        }
+        return x;
+    }
+
+    /** What comes in the place of one that is no more has nothing of it. */
+    private static void allGoesOnFromThere() {
+        for (int hours : new int[] {0, 3, 24, 30, 2400}) {
+            Supplier<SiltHarbour> made = () -> Harbours.busy(hours);
+            Look.same("gone on, of " + hours, Look.of(() -> goOn(changedAndBack(made))), Look.of(() -> goOn(sameTape(kept(made)))));
         }
     }
 

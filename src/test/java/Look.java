@@ -11,7 +11,7 @@ import java.util.function.Supplier;
  * nothing is promised of an object behind its 512th call.
  */
 final class Look {
-    private static final int ASKED_OF_ONE = 200;
+    private static final int ASKED_OF_ONE = 150;
     private static final Consumer<SiltHarbour> NOTHING = x -> { };
     private static final Map<Supplier<SiltHarbour>, List<String>> SEEN = new IdentityHashMap<>();
 

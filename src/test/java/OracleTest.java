@@ -5,11 +5,14 @@ import java.util.HashMap;
 import java.util.Map;
 import java.util.Random;
 
-/** Long runs of calls by chance (always the same ones) on SiltHarbour and on Oracle, which must answer alike. */
+/** Runs of 512 calls by chance (always the same ones) on SiltHarbour and on Oracle, which must answer alike. */
 public final class OracleTest {
     private static final Map<String, Method> REAL = methods(SiltHarbour.class);
     private static final Map<String, Method> PLAIN = methods(Oracle.class);
     private static final Map<String, Integer> SEEN = new HashMap<>();
+
+    /** Nothing is promised of an object behind so many. */
+    private static final int CALLS = 512;
 
     private final Random chance;
     private final SiltHarbour real = new SiltHarbour();
@@ -22,6 +25,12 @@ public final class OracleTest {
     private final int longest;
     private int berthsMade;
     private int depth;
+    private int calls;
+    /** What there is, by the answers of the calls that made it, so that it need not be counted. */
+    private int hour;
+    private int berthsNow;
+    private int ships;
+    private int bonds;
 
     private OracleTest(int run) {
         this.run = run;
@@ -32,10 +41,10 @@ public final class OracleTest {
     }
 
     public static void main(String[] args) {
-        int runs = args.length > 0 ? Integer.parseInt(args[0]) : 400;
+        int runs = args.length > 0 ? Integer.parseInt(args[0]) : 700;
         int first = args.length > 1 ? Integer.parseInt(args[1]) : 0;
         for (int run = first; run < first + runs; run++) {
-            new OracleTest(run).play(run % 7 == 0 ? 500 : 200);
+            new OracleTest(run).play();
         }
         if (args.length > 0) {
             SEEN.entrySet().stream().sorted(Map.Entry.comparingByKey())
@@ -69,6 +78,7 @@ public final class OracleTest {
     }
 
     private Object call(String name, Object... args) {
+        calls++;
         Object got = answer(real, REAL.get(name), args);
         Object want = answer(plain, PLAIN.get(name), args);
         told.append(name).append(Arrays.toString(args)).append(" -> ").append(got).append('\n');
@@ -80,7 +90,34 @@ public final class OracleTest {
             System.out.println(told);
             Due.finish("OracleTest");
         }
+        if (got instanceof Integer n && n >= 0) {
+            note(name, n);
+        }
         return got;
+    }
+
+    private void note(String name, int answer) {
+        switch (name) {
+            case "hours":
+                hour = answer;
+                break;
+            case "berth":
+                berthsNow = answer + 1;
+                break;
+            case "ship":
+                ships = answer + 1;
+                break;
+            case "bond":
+                bonds = answer + 1;
+                break;
+            case "again":
+                hour = counted(0);
+                berthsNow = counted(3);
+                ships = counted(4);
+                bonds = counted(20);
+                break;
+            default:
+        }
     }
 
     private int from(int least, int most) {
@@ -98,15 +135,20 @@ public final class OracleTest {
         return size == 0 || chance.nextInt(100) < wrong ? from(-1, size) : chance.nextInt(size);
     }
 
-    private void play(int calls) {
+    private void play() {
         begin();
-        for (int i = 0; i < calls; i++) {
+        while (calls < CALLS - 130) {
             step();
-            if (chance.nextInt(40) == 0) {
-                lookAtAll();
+            if (chance.nextInt(10) == 0) {
+                look(5);
             }
         }
-        lookAtAll();
+        look(CALLS - calls);
+        Due.due("run " + run + " is no longer than it may be", calls <= CALLS, true);
+    }
+
+    private int counted(int what) {
+        return (Integer) call("count", what);
     }
 
     private void begin() {
@@ -116,7 +158,7 @@ public final class OracleTest {
             int a = chance.nextInt(24);
             call("river", a, a + chance.nextInt(24 - a), depth + chance.nextInt(7) - 3, depth + chance.nextInt(7) - 3);
         }
-        for (int h = 0; h < 25; h++) {
+        for (int h = 0; h < 25; h += 1 + run % 3) {
             call("tide", h, (int) Math.round(6 * Math.sin(h / 2.0)) + chance.nextInt(3));
         }
         call("run", 0, from(0, 2000));
@@ -142,7 +184,6 @@ public final class OracleTest {
     }
 
     private void step() {
-        int ships = real.count(4);
         int what = chance.nextInt(100);
         if (what < 25) {
             call("hours", chance.nextInt(20) == 0 ? from(0, 120) : from(0, longest));
@@ -158,12 +199,12 @@ public final class OracleTest {
         } else if (what < 90) {
             riverStep();
         } else {
-            planStep(ships);
+            planStep();
         }
     }
 
     private void lawStep() {
-        int day = real.count(1);
+        int day = hour / 24;
         switch (chance.nextInt(9)) {
             case 0:
                 feedText(text());
@@ -184,7 +225,7 @@ public final class OracleTest {
                 break;
             case 7:
                 feedText(text());
-                call("another", real.count(2) - chance.nextInt(2), chance.nextBoolean());
+                call("another", hour / 2400 - chance.nextInt(2), chance.nextBoolean());
                 break;
             default:
                 call("feed", chance.nextInt(), chance.nextInt(), chance.nextInt(), chance.nextInt(), chance.nextInt());
@@ -214,7 +255,7 @@ public final class OracleTest {
     }
 
     private void riverStep() {
-        int day = real.count(1);
+        int day = hour / 24;
         switch (chance.nextInt(8)) {
             case 0:
                 call("run", from(day, Math.min(1250, day + 5)), from(0, 2000));
@@ -228,7 +269,7 @@ public final class OracleTest {
             case 3:
             case 4: {
                 int c = chance.nextInt(24);
-                call("sound", below(24), Math.max(0, day - chance.nextInt(3)), real.cell(c, 0) + chance.nextInt(9) - 2);
+                call("sound", below(24), Math.max(0, day - chance.nextInt(3)), (Integer) call("cell", c, 0) + chance.nextInt(9) - 2);
                 call("sound", from(0, 23), from(0, day), from(0, 250));
                 break;
             }
@@ -236,7 +277,7 @@ public final class OracleTest {
                 call("tide", from(0, 24), from(-20, 30));
                 break;
             case 6:
-                call("known", below(24), from(0, real.count(0)));
+                call("known", below(24), from(0, hour));
                 call("river", 0, 1, 20, 20);
                 break;
             default:
@@ -244,14 +285,14 @@ public final class OracleTest {
         }
     }
 
-    private void planStep(int ships) {
+    private void planStep() {
         switch (chance.nextInt(7)) {
             case 0:
             case 1:
                 call("bring");
                 break;
             case 2:
-                call("window", below(ships), below(real.count(3)), chance.nextBoolean());
+                call("window", below(ships), below(berthsNow), chance.nextBoolean());
                 break;
             case 3:
                 call("judge", below(ships), from(0, 3));
@@ -273,38 +314,53 @@ public final class OracleTest {
         }
     }
 
-    private void lookAtAll() {
-        for (int what = -1; what <= 24; what++) {
-            call("count", what);
-        }
-        for (int c = 0; c < 24; c++) {
-            for (int what = 0; what < 4; what++) {
-                call("cell", c, what);
+    private void look(int questions) {
+        for (int i = 0; i < questions; i++) {
+            switch (chance.nextInt(10)) {
+                case 0:
+                case 1:
+                    call("count", from(0, 23));
+                    break;
+                case 2:
+                    call("cell", below(24), from(0, 3));
+                    break;
+                case 3:
+                case 4:
+                case 5:
+                    call("led", below(ships), from(0, 9));
+                    break;
+                case 6:
+                    call("quay", below(berthsNow), from(0, 5));
+                    break;
+                case 7:
+                    call("pays", below(3), from(0, 4));
+                    break;
+                case 8:
+                    call("owes", below(bonds), from(0, 3));
+                    break;
+                default:
+                    lookAtPlans();
             }
         }
-        for (int s = 0; s < real.count(4); s++) {
-            for (int what = 0; what < 10; what++) {
-                call("led", s, what);
-            }
-            call("judge", s, chance.nextInt(4));
+    }
+
+    private void lookAtPlans() {
+        switch (chance.nextInt(5)) {
+            case 0:
+                call("bring");
+                break;
+            case 1:
+                call("window", below(ships), below(berthsNow), chance.nextBoolean());
+                break;
+            case 2:
+                call("worth", from(0, 2000), chance.nextInt(70) - 3);
+                break;
+            case 3:
+                call("known", below(24), chance.nextInt(200));
+                break;
+            default:
+                call("judge", below(ships), from(0, 3));
         }
-        for (int b = 0; b < real.count(3); b++) {
-            for (int what = 0; what < 6; what++) {
-                call("quay", b, what);
-            }
-        }
-        for (int p = 0; p < 3; p++) {
-            for (int what = 0; what < 5; what++) {
-                call("pays", p, what);
-            }
-        }
-        for (int b = 0; b < real.count(20); b++) {
-            for (int what = 0; what < 4; what++) {
-                call("owes", b, what);
-            }
-        }
-        call("led", below(real.count(4)), from(-1, 10));
-        call("bring");
     }
 
     // ---- texts by chance
