@@ -312,6 +312,16 @@ public final class HourEdgesTest {
         Due.due("the third comes in", x.led(2, 4), 1);
         Due.due("the first is ahead of none", x.led(0, 9), 0);
         Due.due("the second is behind it", x.led(1, 9), 1);
+        SiltHarbour y = withBerth(0, 60, 500, 1000);
+        y.berth(5, 900, 500, 1000);
+        y.river(0, 0, 40, 40);
+        y.ship(0, 0, 1, 100, 16, 5, false, 0);
+        y.ship(0, 0, 1, 100, 16, 5, false, 0);
+        y.ship(0, 0, 1, 50, 35, 5, false, 0);
+        y.hours(1);
+        Due.due("not by the CLEARANCE to the long BERTH", y.led(0, 0), 0);
+        Due.due("nor the second", y.led(1, 0), 0);
+        Due.due("the third by it to the deep one", y.led(2, 1), 0);
     }
 
     /** "of the BERTHS, by numbers, that are free, not CLOSED and LONG enough the first to which the way in is SAFE". */

@@ -9,6 +9,8 @@ public final class ImageEdgesTest {
         allComesBack();
         fullOnesComeBack();
         allGoesOnFromThere();
+        whatWasSaidComesBack();
+        nothingOfWhatIsNoMore();
         oneImage();
         theImageItselfStays();
         notTheTape();
@@ -16,6 +18,7 @@ public final class ImageEdgesTest {
         backToTheBegin();
         countsOfAnotherWhat();
         countsStep();
+        countsOfFullOnes();
         refusedCallsLeaveTheImage();
         Due.finish("ImageEdgesTest");
     }
@@ -91,12 +94,10 @@ public final class ImageEdgesTest {
     }
 
     private static void attempt(Runnable call) {
-        try {
+        Look.answer(x -> {
             call.run();
-        } catch (RuntimeException e) {
-            Due.due("not of the machine: " + e.getClass(), e.getClass().getName().matches(
-                "java\\.lang\\.(IndexOutOfBounds|IllegalArgument|IllegalState|UnsupportedOperation)Exception"), true);
-        }
+            return 0;
+        }, null);
     }
 
     /** The TAPE and fault() are not of the IMAGE: they are made alike. */
@@ -155,6 +156,70 @@ public final class ImageEdgesTest {
             Supplier<SiltHarbour> made = () -> Harbours.busy(hours);
             Look.same("gone on, of " + hours, Look.of(() -> goOn(changedAndBack(made))), Look.of(() -> goOn(sameTape(kept(made)))));
         }
+    }
+
+    /** A VOTE as it stood: who said what, how many were for it, how many in all. */
+    private static void whatWasSaidComesBack() {
+        SiltHarbour x = new SiltHarbour();
+        Due.act(x, 0, "vote 1");
+        for (int p = 0; p < 5; p++) {
+            x.payer();
+        }
+        x.propose(0);
+        x.vote(0, true);
+        x.keep();
+        x.vote(1, false);
+        x.vote(2, false);
+        x.again();
+        Due.due("1 of 1", x.close(), true);
+        x.again();
+        Due.due("1 had not said it", x.vote(1, false), 1);
+        Due.due("1 of 2", x.close(), false);
+        x.again();
+        Due.due("0 had said it", x.vote(0, false), -1);
+        x.vote(1, false);
+        x.vote(2, true);
+        x.vote(3, true);
+        x.again();
+        x.vote(4, false);
+        Due.due("1 of 2 again", x.close(), false);
+        x.propose(0);
+        x.vote(0, false);
+        x.keep();
+        x.vote(1, true);
+        x.vote(2, true);
+        x.again();
+        Due.due("0 of 1", x.close(), false);
+    }
+
+    /** A BERTH and a SHIP in the place of those that are no more. */
+    private static void nothingOfWhatIsNoMore() {
+        SiltHarbour x = new SiltHarbour();
+        x.payer();
+        x.river(0, 0, 1, 40);
+        x.hands(2, 0);
+        x.keep();
+        x.berth(0, 900, 100, 1);
+        x.ship(0, 0, 150, 1, 9, 9, false, 0);
+        x.hours(120);
+        Due.due("it touched", x.led(0, 8), 2);
+        Due.due("LOAD", x.quay(0, 1), 150);
+        x.again();
+        x.berth(3, 900, 100, 1);
+        x.ship(0, 0, 10, 1, 9, 9, false, 0);
+        int[] berth = {3, 0, 0, -1, 0, 0};
+        for (int what = 0; what < 6; what++) {
+            Due.due("a new BERTH's " + what, x.quay(0, what), berth[what]);
+        }
+        int[] ship = {0, -1, 10, 0, -1, -1, 0, 0, 0, 0};
+        for (int what = 0; what < 10; what++) {
+            Due.due("a new SHIP's " + what, x.led(0, what), ship[what]);
+        }
+        Due.due("no LOAD", x.count(8), 0);
+        Due.due("no TOUCH", x.count(13), 0);
+        Due.due("none is GONE", x.count(6), 0);
+        Due.text(x, "ship 1");
+        Due.due("none left", x.another(0, true), 0);
     }
 
     /** "THE IMAGE (one)": the latest that was kept. */
@@ -293,6 +358,41 @@ public final class ImageEdgesTest {
         Due.pass(x, 2376);
         expect(x, "a YEAR", 0, 2400, 1, 100, 2, 1, 3, 1, 4, 1, 6, 1, 7, 2, 9, 30, 11, 10, 12, 5, 13, 2, 14, 100, 15, x.count(15), 16, 10, 17, 1, 18, 1, 19, 4, 20, 1,
             21, 15, 22, heaps, 23, 465);
+    }
+
+    /** Sums over all that there may be. */
+    private static void countsOfFullOnes() {
+        SiltHarbour x = Harbours.FULL_PORT.get();
+        int load = 0;
+        for (int b = 0; b < 10; b++) {
+            load += x.quay(b, 1);
+        }
+        Due.due("tons that lie on 10 BERTHS", x.count(8), load);
+        Due.due("80 SHIPS", x.count(4), 80);
+        Due.due("none touched", x.count(13), 0);
+        Due.due("WAITING and not", x.count(5) + x.count(6) < 80, true);
+        SiltHarbour y = new SiltHarbour();
+        Due.act(y, 0, "borrow 999999");
+        for (int b = 0; b < 20; b++) {
+            y.bond(1000, 2000, 9 - b / 2, 1);
+        }
+        Due.pass(y, 2400);
+        int owed = 0;
+        for (int b = 0; b < 20; b++) {
+            owed += y.owes(b, 0);
+        }
+        Due.due("what 20 BONDS owe", y.count(21), owed);
+        Due.due("the interest of all", owed, 4000);
+        SiltHarbour z = Harbours.FULL_RIVER.get();
+        z.hours(120);
+        int heaps = 0;
+        int beds = 0;
+        for (int c = 0; c < 24; c++) {
+            heaps += z.cell(c, 2);
+            beds += z.cell(c, 0);
+        }
+        Due.due("all HEAPS", z.count(22), heaps);
+        Due.due("all BEDS", z.count(23), beds);
     }
 
     /** Pairs of a what and its count; all others are as in a new object. */

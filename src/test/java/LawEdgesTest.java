@@ -286,7 +286,7 @@ public final class LawEdgesTest {
         for (String fact : facts) {
             SiltHarbour y = new SiltHarbour();
             y.payer();
-            Due.act(y, 0, "vote 1 if " + fact + ";vote 2 if not " + fact + ";vote 4");
+            Due.act(y, 0, "vote 1 if " + fact + ";vote 2 if not " + fact + ";vote 4;vote 8 if tons<0 or long<0 or stay<0 or paid<0 or last<0");
             Due.due("all is 0 for " + fact, y.pays(0, 2), 6);
             y.propose(0);
             Due.due("said with as many", y.vote(0, true), 6);
@@ -430,6 +430,10 @@ public final class LawEdgesTest {
         int[] none = {0, -1, -1, 0};
         for (int what = 0; what < 4; what++) {
             Due.due("without an ACT " + what, x.judge(0, what), none[what]);
+        }
+        Due.act(x, 0, "ton 9 if stay<0;ship 9 if stay<0;back 9 if stay<0;ton 9 if paid<0;back 9 if last<0");
+        for (int what = 0; what < 4; what++) {
+            Due.due("stay, paid and last are 0, not below " + what, x.judge(0, what), none[what]);
         }
         Due.act(x, 0, "ton 0;ship 0;back 0");
         int[] zero = {0, 0, 1, 0};

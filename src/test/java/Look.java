@@ -2,6 +2,7 @@ import java.util.ArrayList;
 import java.util.IdentityHashMap;
 import java.util.List;
 import java.util.Map;
+import java.util.NoSuchElementException;
 import java.util.function.Consumer;
 import java.util.function.Function;
 import java.util.function.Supplier;
@@ -73,11 +74,17 @@ final class Look {
         Due.due(what, true, true);
     }
 
-    /** The answer, or the class that was thrown. */
+    private static final List<Class<?>> OF_THE_DOCUMENT = List.of(IndexOutOfBoundsException.class, IllegalArgumentException.class,
+        IllegalStateException.class, UnsupportedOperationException.class, NoSuchElementException.class);
+
+    /** The answer, or the class that was thrown, which must be one of the document's, not one of the machine's. */
     static Object answer(Function<SiltHarbour, Object> ask, SiltHarbour x) {
         try {
             return ask.apply(x);
         } catch (RuntimeException e) {
+            if (!OF_THE_DOCUMENT.contains(e.getClass())) {
+                Due.same("a call", e, "nothing that the machine throws");
+            }
             return e.getClass();
         }
     }

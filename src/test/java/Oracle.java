@@ -139,13 +139,11 @@ public final class Oracle {
             }
             int q = p + 1;
             String run = Character.toString(s.charAt(p));
-            if (run.matches("[a-z]")) {
-                while (q < s.length() && s.substring(q, q + 1).matches("[a-z]")) {
-                    q++;
-                }
-            } else if (run.matches("[0-9]")) {
-                while (q < s.length() && s.substring(q, q + 1).matches("[0-9]")) {
-                    q++;
+            for (String kind : new String[] {"abcdefghijklmnopqrstuvwxyz", "0123456789"}) {
+                if (kind.contains(run)) {
+                    while (q < s.length() && kind.indexOf(s.charAt(q)) >= 0) {
+                        q++;
+                    }
                 }
             }
             return s.substring(p, q);

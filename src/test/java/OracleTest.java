@@ -41,7 +41,7 @@ public final class OracleTest {
     }
 
     public static void main(String[] args) {
-        int runs = args.length > 0 ? Integer.parseInt(args[0]) : 700;
+        int runs = args.length > 0 ? Integer.parseInt(args[0]) : 320;
         int first = args.length > 1 ? Integer.parseInt(args[1]) : 0;
         for (int run = first; run < first + runs; run++) {
             new OracleTest(run).play();

@@ -226,6 +226,10 @@ public final class PortEdgesTest {
         Due.due("none waits", x.count(5), 0);
         Due.due("the last left", x.led(79, 5), 81);
         Due.thrown("no room, though all are gone", FULL, () -> boat(x, 1));
+        Due.text(x, "ship 1");
+        Due.due("all 80 would have gone elsewhere", x.another(0, true), 80);
+        Due.due("ships of the one PAYER", x.pays(0, 3), 80);
+        Due.due("none touched", x.count(13), 0);
     }
 
     /** "So many HOURS .. not 0 to 120". */

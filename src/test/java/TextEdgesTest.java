@@ -311,7 +311,7 @@ public final class TextEdgesTest {
         String[] names = {"tons", "long", "stay", "paid", "last"};
         int[] values = {10, 20, 0, 0, 0};
         for (int i = 0; i < names.length; i++) {
-            for (int n = Math.max(0, values[i] - 1); n <= values[i] + 1; n++) {
+            for (int n : new int[] {0, 1, Math.max(0, values[i] - 1), values[i], values[i] + 1, 999999}) {
                 Due.due(names[i] + " < " + n, holds(names[i] + " < " + n), values[i] < n);
                 Due.due(names[i] + " > " + n, holds(names[i] + " > " + n), values[i] > n);
             }
@@ -365,10 +365,14 @@ public final class TextEdgesTest {
         Due.due("TONS as it came, though none is left", x.led(0, 2), 0);
         Due.due("paid", x.pays(0, 0), 5);
         x.ship(0, 4, 9, 20, 1, 1, true, 0);
+        Due.due("VOTES, for which paid counts", x.pays(0, 2), 0);
         Due.due("its PAYER's paid is 0 for it", x.led(1, 6), 2);
         Due.pass(x, 2400);
         x.ship(0, 4, 9, 20, 1, 1, true, 0);
+        Due.due("VOTES, for which last counts", x.pays(0, 2), 0);
         Due.due("its PAYER's last is 0 for it", x.led(2, 6), 2);
+        x.pays(0, 2);
+        Due.due("judged so, too", x.judge(2, 0), 2);
         Due.due("last", x.pays(0, 1) > 0, true);
     }
 
