@@ -46,8 +46,9 @@ final class Harbours {
         x.hands(3, 2);
         Due.act(x, 0, "ton 1;ship 3 if stay > 20;vote 1;vote 2 if last > 0;borrow 5000;back 50;turn good;clear 3");
         x.cash(100);
-        x.bond(1000, 2000, 3, 1);
+        x.bond(1000, 2000, 7, 1);
         x.bond(1000, 1000, 3, 2);
+        x.bond(700, 1500, 5, 1);
         x.work(10, 2, 0, 5);
         x.work(50, 20, 3, 15);
         for (int i = 0; i < 9; i++) {

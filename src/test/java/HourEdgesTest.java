@@ -247,6 +247,23 @@ public final class HourEdgesTest {
             x.hours(1);
             Due.due(pilots + " PILOTS, an HOUR later", x.count(5), 3 - Math.min(3, 2 * pilots));
         }
+        SiltHarbour y = new SiltHarbour();
+        y.payer();
+        y.hands(20, 0);
+        for (int i = 0; i < 10; i++) {
+            y.berth(0, 100, 500, 1000);
+        }
+        for (int i = 0; i < 21; i++) {
+            boat(y, 1);
+        }
+        y.hours(1);
+        Due.due("10 to 10 BERTHS in one HOUR", y.count(5), 11);
+        Due.due("10 are free", y.count(7), 10);
+        y.hours(1);
+        Due.due("10 out and 10 in with 20", y.count(5), 1);
+        Due.due("none is free", y.count(7), 0);
+        y.hours(1);
+        Due.due("the last", y.count(5), 0);
     }
 
     /** "(b) SHIPS ready to leave, by numbers". */

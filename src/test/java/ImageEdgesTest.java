@@ -11,6 +11,8 @@ public final class ImageEdgesTest {
         allGoesOnFromThere();
         whatWasSaidComesBack();
         nothingOfWhatIsNoMore();
+        ranksComeBack();
+        soundingsComeBack();
         oneImage();
         theImageItselfStays();
         notTheTape();
@@ -190,6 +192,40 @@ public final class ImageEdgesTest {
         x.vote(2, true);
         x.again();
         Due.due("0 of 1", x.close(), false);
+        x.propose(0);
+        x.vote(0, true);
+        x.vote(1, false);
+        x.vote(2, true);
+        x.keep();
+        x.vote(3, true);
+        x.again();
+        Due.due("3 had not said it", x.vote(3, false), 1);
+        Due.due("2 of 4", x.close(), false);
+        x.again();
+        Due.due("2 of 3", x.close(), true);
+    }
+
+    /** SOUNDINGS with their DAYS: an older one that is told behind again() counts for as little as ahead of it. */
+    private static void soundingsComeBack() {
+        SiltHarbour x = new SiltHarbour();
+        x.hours(120);
+        x.sound(7, 3, 30);
+        x.sound(0, 2, 40);
+        x.sound(23, 4, 250);
+        x.keep();
+        x.sound(7, 5, 31);
+        x.sound(0, 5, 41);
+        x.sound(23, 5, 9);
+        x.again();
+        x.sound(7, 2, 32);
+        x.sound(0, 3, 42);
+        x.sound(23, 3, 8);
+        Due.due("DAY 2 is older than 3", x.known(7, 120), 30);
+        Due.due("DAY 3 is later than 2", x.known(0, 120), 42);
+        Due.due("DAY 3 is older than 4", x.known(23, 120), 250);
+        x.sound(7, 3, 33);
+        Due.due("of one DAY the one told last", x.cell(7, 3), 33);
+        Due.due("SOUNDINGS", x.count(17), 7);
     }
 
     /** A BERTH and a SHIP in the place of those that are no more. */
@@ -220,6 +256,23 @@ public final class ImageEdgesTest {
         Due.due("none is GONE", x.count(6), 0);
         Due.text(x, "ship 1");
         Due.due("none left", x.another(0, true), 0);
+    }
+
+    private static void ranksComeBack() {
+        SiltHarbour x = new SiltHarbour();
+        Due.act(x, 0, "borrow 999999");
+        x.bond(100, 2000, 9, 1);
+        x.bond(100, 1000, 0, 1);
+        x.bond(100, 500, 4, 1);
+        x.keep();
+        for (int i = 0; i < 3; i++) {
+            Due.pass(x, 4800);
+            int[] owed = {35, 0, 0};
+            for (int b = 0; b < 3; b++) {
+                Due.due("owed to " + b + ", time " + i, x.owes(b, 0), owed[b]);
+            }
+            Due.due("back", x.again(), true);
+        }
     }
 
     /** "THE IMAGE (one)": the latest that was kept. */

@@ -100,6 +100,8 @@ final class Look {
         ask("told more", NOTHING, tellings());
         ask("voted", NOTHING, votes());
         ask("the tape", NOTHING, tape());
+        ask("another act", NOTHING, others());
+        ask("another act, a year later", x -> Due.pass(x, 2400), others());
         return answers;
     }
 
@@ -231,6 +233,25 @@ final class Look {
         add(all, "count(18)", x -> x.count(18));
         add(all, "hours(24)", x -> x.hours(24));
         add(all, "count(19)", x -> x.count(19));
+        return all;
+    }
+
+    /** What other acts would have brought, of which some ships bear more than others. */
+    private static List<Question> others() {
+        List<Question> all = new ArrayList<>();
+        String[] texts = {"ton 1", "ship 60", "ship 170", "ship 9 if foreign;ship 20 if long>55", "ship 7 if grain or timber;ton 1 if stay>9"};
+        for (String text : texts) {
+            for (int year = 0; year < 2; year++) {
+                for (boolean elsewhere : new boolean[] {false, true}) {
+                    int y = year;
+                    add(all, "another(" + y + ", " + elsewhere + ") of " + text, x -> {
+                        x.end(0);
+                        Due.text(x, text);
+                        return x.another(y, elsewhere);
+                    });
+                }
+            }
+        }
         return all;
     }
 

@@ -307,9 +307,9 @@ public final class MoneyEdgesTest {
             }
         }
         Look.refused("none may be sold without a LINE", -1, Harbours.NEW, x -> x.bond(1, 0, 0, 1));
-        Look.refused("it may not be borrowed", -1, Harbours.BUSY, x -> x.bond(3001, 0, 0, 1));
+        Look.refused("it may not be borrowed", -1, Harbours.BUSY, x -> x.bond(2301, 0, 0, 1));
         Look.refused("nor the greatest", -1, Harbours.BUSY, x -> x.bond(1000000, 2000, 9, 30));
-        Due.due("3000 more may be", Harbours.BUSY.get().bond(3000, 0, 0, 1), 2);
+        Due.due("2300 more may be", Harbours.BUSY.get().bond(2300, 0, 0, 1), 3);
     }
 
     /** "BONDS (at most 20)": that is told ahead of whether it may be borrowed. */
@@ -512,13 +512,13 @@ public final class MoneyEdgesTest {
 
     private static void owesRefuses() {
         SiltHarbour x = Harbours.BUSY.get();
-        for (int bond : new int[] {-1, 2, LEAST, MOST}) {
+        for (int bond : new int[] {-1, 3, LEAST, MOST}) {
             Look.refused("owes of " + bond, INDEX, Harbours.BUSY, y -> y.owes(bond, 0));
             Due.thrown("no BOND is told first", INDEX, () -> x.owes(bond, 4));
         }
         for (int what : new int[] {-1, 4, LEAST, MOST}) {
             Look.refused("owes what " + what, ELEMENT, Harbours.BUSY, y -> y.owes(0, what));
-            Due.thrown("what " + what + " of the last", ELEMENT, () -> x.owes(1, what));
+            Due.thrown("what " + what + " of the last", ELEMENT, () -> x.owes(2, what));
         }
         Look.refused("owes of a 21st", INDEX, Harbours.FULL_PURSE, y -> y.owes(20, 0));
         Due.due("of the 20th", Harbours.FULL_PURSE.get().owes(19, 1), 20);
