@@ -509,6 +509,15 @@ public final class LawEdgesTest {
         Due.due("an empty text", another(x, 0, false, ""), 0);
         Due.due("by the stay that it had", another(x, 0, false, "ship 5 if stay < 3 and stay > 1"), 5);
         Due.due("nothing changes", x.count(18), 0);
+        SiltHarbour y = new SiltHarbour();
+        y.payer();
+        y.berth(0, 900, 500, 500);
+        Due.pass(y, 2398);
+        y.ship(0, 0, 1, 1, 1, 1, false, 1000);
+        y.hours(2);
+        Due.due("one left in HOUR 2400", y.led(0, 5), 2400);
+        Due.due("which is of YEAR 1", another(y, 1, false, "ton 1"), 1);
+        Due.due("not of YEAR 0", another(y, 0, false, "ton 1"), 0);
     }
 
     /** "those whose DUE by it .. is above their MOST: they bring nothing". */
