@@ -22,6 +22,8 @@ public final class FaceTest {
         innerClasses();
         forbiddenWords(source);
         lengthOfMethods(source);
+        throwsByTheRule(source);
+        makesInFewPlaces(source);
         Due.finish("FaceTest");
     }
 
@@ -102,8 +104,41 @@ public final class FaceTest {
             }
             for (Method m : c.getDeclaredMethods()) {
                 Due.due("at most seven parameters: " + m.getName(), m.getParameterCount() <= 7, true);
+                boolean asPublic = Arrays.stream(SiltHarbour.class.getDeclaredMethods())
+                    .anyMatch(open -> Modifier.isPublic(open.getModifiers()) && open.getName().equals(m.getName()));
+                Due.due("no name of a public one: " + m.getName(), asPublic, false);
             }
         }
+    }
+
+    /** Rule 6: throw new E() or E("a written text"), of the classes that the document names. */
+    private static void throwsByTheRule(String source) {
+        Matcher m = Pattern.compile("\\bthrow\\b(.*)").matcher(source);
+        int found = 0;
+        while (m.find()) {
+            found++;
+            Due.due("thrown by the rule:" + m.group(1), m.group(1).matches(" new (IllegalStateException|IllegalArgumentException"
+                + "|IndexOutOfBoundsException|UnsupportedOperationException|NoSuchElementException)\\((\"[^\"]*\")?\\);"), true);
+        }
+        Due.due("something is thrown", found > 0, true);
+    }
+
+    /** Rule 12: rows are made in constructors; later only the Act of a text, and the Board of the first image. */
+    private static void makesInFewPlaces(String source) {
+        String method = "";
+        int found = 0;
+        for (String line : source.split("\n")) {
+            Matcher begin = Pattern.compile("^(?: {4}| {8})(?:(?:public|private|static|final) )*(?:[\\w\\[\\]]+ )?(\\w+)\\([^;]*$").matcher(line);
+            if (begin.find()) {
+                method = begin.group(1);
+            }
+            if (line.contains("new ") && !line.contains("throw new") || line.contains("Arrays.copyOf") || line.contains(".clone(")) {
+                found++;
+                boolean may = Character.isUpperCase(method.charAt(0)) || method.equals("read") || method.equals("keep");
+                Due.due("made in a constructor, read or keep, not in " + method + ": " + line.trim(), may, true);
+            }
+        }
+        Due.due("something is made", found > 0, true);
     }
 
     private static void forbiddenWords(String source) {
